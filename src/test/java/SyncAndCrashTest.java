@@ -39,6 +39,8 @@ public final class SyncAndCrashTest {
         Drive drive = on("sync of a twin", 20);
         drive.tape(64, 0).append(0, 3, 192).twin(0, 1, 192).sync(1, 3).sync(0, 3).count(0, 3);
         drive.tape(64, 0).append(1, 1, 256).twin(1, 0, 256).sync(0, 1).sync(1, 1).file(0, 256, 256, 256);
+        // A page that the synced row had once, and has no more, counts as any other.
+        drive.twin(0, 2, 256).cut(0, 64, 256).sync(0, 0).twin(2, 0, 256).sync(0, 3).file(0, 256, 256, 256);
     }
 
     private void crashToSynced() {
