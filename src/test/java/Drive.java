@@ -1,15 +1,52 @@
+import java.util.function.LongSupplier;
+
 /** A PageDrive with its calls checked, so that a test is a list of calls and answers due. */
 final class Drive {
     private static final Class<IndexOutOfBoundsException> INDEX = IndexOutOfBoundsException.class;
+    private static final int CALLS_PROMISED = 512;
 
-    final PageDrive drive;
+    private final PageDrive drive;
     private final Check check;
     private final String name;
+    private int calls = 0;
+    private boolean anyNumber = false;
 
     Drive(Check check, String name, int pages) {
         this.check = check;
         this.name = name;
         drive = new PageDrive(pages);
+    }
+
+    /** For the few tests of what can only be seen behind the last call that the document speaks of. */
+    Drive beyondThePromisedCalls() {
+        anyNumber = true;
+        return this;
+    }
+
+    /** A test that asks more than the document promises would hold the class to nothing. */
+    private void counted() {
+        calls++;
+        if (calls == CALLS_PROMISED + 1 && !anyNumber) {
+            check.compare(name + " calls", "at most " + CALLS_PROMISED, "more");
+        }
+    }
+
+    /** How many calls were made, so that a test can show that it ends with the last promised one. */
+    Drive calls(int want) {
+        check.compare(name + " calls", String.valueOf(want), String.valueOf(calls));
+        return this;
+    }
+
+    private Drive due(String call, long want, LongSupplier answer) {
+        counted();
+        check.due(name + " " + call, want, answer);
+        return this;
+    }
+
+    private Drive dueThrow(String call, Class<? extends RuntimeException> want, LongSupplier answer) {
+        counted();
+        check.dueThrow(name + " " + call, want, answer);
+        return this;
     }
 
     /** Feeds bytes first, first + 1 and so on (mod 256) until the tape has n more of them. */
@@ -19,114 +56,132 @@ final class Drive {
             for (int i = 7; i >= 0; i--) {
                 eight = (eight << 8) | ((first + done + i) & 0xFF);
             }
+            counted();
             drive.feed(eight, Math.min(8, n - done));
         }
         return this;
     }
 
     Drive feed(long eight, int n, long want) {
-        check.due(name + " feed(" + eight + ", " + n + ")", want, () -> drive.feed(eight, n));
-        return this;
+        return due("feed(" + eight + ", " + n + ")", want, () -> drive.feed(eight, n));
     }
 
     Drive feedThrows(long eight, int n, Class<? extends RuntimeException> want) {
-        check.dueThrow(name + " feed(" + eight + ", " + n + ")", want, () -> drive.feed(eight, n));
-        return this;
+        return dueThrow("feed(" + eight + ", " + n + ")", want, () -> drive.feed(eight, n));
     }
 
     Drive append(int file, int times, long want) {
-        check.due(name + " append(" + file + ", " + times + ")", want, () -> drive.append(file, times));
-        return this;
+        return due("append(" + file + ", " + times + ")", want, () -> drive.append(file, times));
     }
 
     Drive appendThrows(int file, int times, Class<? extends RuntimeException> want) {
-        check.dueThrow(name + " append(" + file + ", " + times + ")", want, () -> drive.append(file, times));
-        return this;
+        return dueThrow("append(" + file + ", " + times + ")", want, () -> drive.append(file, times));
     }
 
     Drive cut(int file, int size, long want) {
-        check.due(name + " cut(" + file + ", " + size + ")", want, () -> drive.cut(file, size));
-        return this;
+        return due("cut(" + file + ", " + size + ")", want, () -> drive.cut(file, size));
     }
 
     Drive cutThrows(int file, int size, Class<? extends RuntimeException> want) {
-        check.dueThrow(name + " cut(" + file + ", " + size + ")", want, () -> drive.cut(file, size));
-        return this;
+        return dueThrow("cut(" + file + ", " + size + ")", want, () -> drive.cut(file, size));
     }
 
     Drive remove(int file, boolean want) {
-        check.due(name + " remove(" + file + ")", want ? 1 : 0, () -> drive.remove(file) ? 1 : 0);
-        return this;
+        return due("remove(" + file + ")", want ? 1 : 0, () -> drive.remove(file) ? 1 : 0);
     }
 
     Drive removeThrows(int file) {
-        check.dueThrow(name + " remove(" + file + ")", INDEX, () -> drive.remove(file) ? 1 : 0);
-        return this;
+        return dueThrow("remove(" + file + ")", INDEX, () -> drive.remove(file) ? 1 : 0);
     }
 
     Drive twin(int from, int to, long want) {
-        check.due(name + " twin(" + from + ", " + to + ")", want, () -> drive.twin(from, to));
-        return this;
+        return due("twin(" + from + ", " + to + ")", want, () -> drive.twin(from, to));
     }
 
     Drive twinThrows(int from, int to, Class<? extends RuntimeException> want) {
-        check.dueThrow(name + " twin(" + from + ", " + to + ")", want, () -> drive.twin(from, to));
-        return this;
+        return dueThrow("twin(" + from + ", " + to + ")", want, () -> drive.twin(from, to));
     }
 
     Drive sync(int file, long want) {
-        check.due(name + " sync(" + file + ")", want, () -> drive.sync(file));
-        return this;
+        return due("sync(" + file + ")", want, () -> drive.sync(file));
     }
 
     Drive syncThrows(int file) {
-        check.dueThrow(name + " sync(" + file + ")", INDEX, () -> drive.sync(file));
-        return this;
+        return dueThrow("sync(" + file + ")", INDEX, () -> drive.sync(file));
     }
 
     Drive crash(int file, int keep, long want) {
-        check.due(name + " crash(" + file + ", " + keep + ")", want, () -> drive.crash(file, keep));
-        return this;
+        return due("crash(" + file + ", " + keep + ")", want, () -> drive.crash(file, keep));
     }
 
     Drive crashThrows(int file, int keep, Class<? extends RuntimeException> want) {
-        check.dueThrow(name + " crash(" + file + ", " + keep + ")", want, () -> drive.crash(file, keep));
-        return this;
+        return dueThrow("crash(" + file + ", " + keep + ")", want, () -> drive.crash(file, keep));
     }
 
     Drive crashAll(long row, long want) {
-        check.due(name + " crashAll(" + row + ")", want, () -> drive.crashAll(row));
-        return this;
+        return due("crashAll(" + row + ")", want, () -> drive.crashAll(row));
     }
 
     /** All that file() tells, what 0 to 7 in their order. */
     Drive file(int file, int... wants) {
         for (int what = 0; what < wants.length; what++) {
-            int asked = what;
-            check.due(name + " file(" + file + ", " + what + ")", wants[what], () -> drive.file(file, asked));
+            fileIs(file, what, wants[what]);
         }
         return this;
     }
 
+    Drive fileIs(int file, int what, int want) {
+        return due("file(" + file + ", " + what + ")", want, () -> drive.file(file, what));
+    }
+
     Drive fileThrows(int file, int what) {
-        check.dueThrow(name + " file(" + file + ", " + what + ")", INDEX, () -> drive.file(file, what));
-        return this;
+        return dueThrow("file(" + file + ", " + what + ")", INDEX, () -> drive.file(file, what));
     }
 
     Drive byteAt(int file, boolean synced, int i, long want) {
-        check.due(name + " byteAt(" + file + ", " + synced + ", " + i + ")", want,
-                () -> drive.byteAt(file, synced, i));
-        return this;
+        return due("byteAt(" + file + ", " + synced + ", " + i + ")", want, () -> drive.byteAt(file, synced, i));
     }
 
     Drive byteAtThrows(int file, boolean synced, int i) {
-        check.dueThrow(name + " byteAt(" + file + ", " + synced + ", " + i + ")", INDEX,
+        return dueThrow("byteAt(" + file + ", " + synced + ", " + i + ")", INDEX,
                 () -> drive.byteAt(file, synced, i));
-        return this;
     }
 
     Drive count(int what, long want) {
-        check.due(name + " count(" + what + ")", want, () -> drive.count(what));
+        return due("count(" + what + ")", want, () -> drive.count(what));
+    }
+
+    /** All that the drive tells of itself and of some files, every byte too. */
+    String state(int... files) {
+        StringBuilder told = new StringBuilder();
+        for (int what = 0; what < 5; what++) {
+            counted();
+            told.append(drive.count(what)).append(' ');
+        }
+        for (int file : files) {
+            told.append("/ file ").append(file).append(": ");
+            for (int what = 0; what < 8; what++) {
+                counted();
+                told.append(drive.file(file, what)).append(' ');
+            }
+            bytesTo(told, file, false);
+            bytesTo(told, file, true);
+        }
+        return told.toString();
+    }
+
+    private void bytesTo(StringBuilder told, int file, boolean synced) {
+        counted();
+        int size = drive.file(file, synced ? 1 : 0);
+        for (int i = 0; i < size; i++) {
+            counted();
+            told.append(drive.byteAt(file, synced, i)).append(' ');
+        }
+    }
+
+    /** Nothing that the drive tells of itself and of these files has changed since. */
+    Drive unchanged(String before, int... files) {
+        check.compare(name + " state", before, state(files));
         return this;
     }
 }

@@ -56,7 +56,8 @@ public final class ModelTest {
             case 0: case 1: case 2: case 3: case 4: {
                 long eight = random.nextLong();
                 int n = oddOr(biggest == 0 ? 1 + random.nextInt(8) : 8);
-                same(all, at + "feed(" + eight + ", " + n + ")", () -> drive.feed(eight, n), () -> model.feed(eight, n));
+                same(all, at + "feed(" + eight + ", " + n + ")",
+                        () -> drive.feed(eight, n), () -> model.feed(eight, n));
                 break;
             }
             case 5: case 6: case 7: {
@@ -67,7 +68,8 @@ public final class ModelTest {
             }
             case 8: {
                 int size = cutSize(sizeOf(file, 0));
-                same(all, at + "cut(" + file + ", " + size + ")", () -> drive.cut(file, size), () -> model.cut(file, size));
+                same(all, at + "cut(" + file + ", " + size + ")",
+                        () -> drive.cut(file, size), () -> model.cut(file, size));
                 break;
             }
             case 9: {
@@ -79,7 +81,8 @@ public final class ModelTest {
             }
             case 10: {
                 int to = file();
-                same(all, at + "twin(" + file + ", " + to + ")", () -> drive.twin(file, to), () -> model.twin(file, to));
+                same(all, at + "twin(" + file + ", " + to + ")",
+                        () -> drive.twin(file, to), () -> model.twin(file, to));
                 break;
             }
             case 11: case 12:

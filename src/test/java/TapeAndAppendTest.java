@@ -51,7 +51,7 @@ public final class TapeAndAppendTest {
 
     /** The tape is full with the 512th call; what is refused behind it the document leaves free. */
     private void fullTape() {
-        Drive drive = on("full tape", 10);
+        Drive drive = on("full tape", 10).beyondThePromisedCalls();
         for (int i = 1; i <= 512; i++) {
             drive.feed(i, 8, 8 * i);
         }
